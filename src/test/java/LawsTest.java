@@ -1,5 +1,7 @@
-/** What must hold of every run, whatever the plan: the watches never tell too early or later than their BOUND, nothing is
- *  lost on its way, and what was said ON PAPER is what comes. */
+/**
+ * What must hold of every run, whatever the plan: the watches never tell too early or later than their BOUND, nothing is
+ * lost on its way, and what was said ON PAPER is what comes.
+ */
 public final class LawsTest {
     private static final Check check = new Check();
     private static long seed = 4711;
@@ -47,7 +49,8 @@ public final class LawsTest {
     private static void boundHolds(WorkEnds x, int load) {
         for (int w = 0; w < 4; w++) {
             int late = x.would(load, w, 2);
-            check.holds("LAG " + late + " of " + w + " within its BOUND " + x.bound(w), late >= 0 && late <= x.bound(w));
+            check.holds("LAG " + late + " of " + w + " within its BOUND " + x.bound(w),
+                late >= 0 && late <= x.bound(w));
             check.due("margin", x.margin(load, w), x.bound(w) - late);
         }
     }

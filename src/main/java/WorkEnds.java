@@ -165,14 +165,14 @@ public final class WorkEnds {
         if (!now.watches.hasTold(watch)) {
             return refuse(NOT_THERE);
         }
-        return answer(now.lateness(watch));
+        return answer(now.lagOf(watch));
     }
 
     public int bound(int watch) {
         if (!isWatch(watch)) {
             return refuse(NO_SUCH);
         }
-        return answer(now.latest(watch));
+        return answer(now.boundOf(watch));
     }
 
     public int best(int what) {
@@ -407,7 +407,7 @@ public final class WorkEnds {
         switch (what) {
             case 0: return answer(paper.truth - now.tick);
             case 1: return answer(paper.watches.told[watch] - now.tick);
-            case 2: return answer(paper.lateness(watch));
+            case 2: return answer(paper.lagOf(watch));
             default: return answer(paper.watches.signals[watch]);
         }
     }
@@ -429,7 +429,7 @@ public final class WorkEnds {
         startOnPaper(load);
         paper.wires[wireOf(from, to)] = ticks;
         paper.passUntilTold(watch);
-        return answer(paper.lateness(watch));
+        return answer(paper.lagOf(watch));
     }
 
     public int margin(int load, int watch) {
@@ -439,7 +439,7 @@ public final class WorkEnds {
         }
         startOnPaper(load);
         paper.passUntilTold(watch);
-        return answer(paper.latest(watch) - paper.lateness(watch));
+        return answer(paper.boundOf(watch) - paper.lagOf(watch));
     }
 
     public int quickest(int load) {
@@ -532,7 +532,7 @@ public final class WorkEnds {
         int filled;
         int faultKind = NONE;
         int faultPlace = NONE;
-        // Of the latest TOKEN: where the TEXT ends, where it starts, what lies behind it.
+        // The TEXT's length; then of the latest TOKEN: where it starts, what is next behind it, its kind, its NUMBER.
         int end;
         int start;
         int next;
@@ -1190,6 +1190,13 @@ public final class WorkEnds {
     private static final class World {
         static final int MINTED = 1024;
 
+        // What ofNode() tells that is asked of all together.
+        static final int WORK = 0;
+        static final int DONE = 1;
+        static final int SENT = 2;
+        static final int OWED = 6;
+        static final int WEIGHED = 9;
+
         final Node[] nodes = new Node[MOST_NODES];
         final int[] wires = new int[MOST_NODES * MOST_NODES];
         final Plan plan = new Plan();
@@ -1541,7 +1548,7 @@ public final class WorkEnds {
         void seeTruth() {
             if (truth == NONE && !isWorking()) {
                 truth = tick;
-                events.note(TRUTH_EVENT, tick, sentTogether());
+                events.note(TRUTH_EVENT, tick, together(SENT));
             }
         }
 
@@ -1667,41 +1674,17 @@ public final class WorkEnds {
             return busyBits() != 0 || letters.works() > 0;
         }
 
-        int workTogether() {
-            int sum = 0;
-            for (int i = 0; i < count; i++) {
-                sum += nodes[i].work;
-            }
-            return sum;
-        }
-
-        int doneTogether() {
-            int sum = 0;
-            for (int i = 0; i < count; i++) {
-                sum += nodes[i].done;
-            }
-            return sum;
-        }
-
-        int sentTogether() {
-            int sum = 0;
-            for (int i = 0; i < count; i++) {
-                sum += nodes[i].sent;
-            }
-            return sum;
-        }
-
         int overall(int what) {
             switch (what) {
                 case 0: return count;
                 case 1: return plan.count;
                 case 2: return tick;
                 case 3: return busyBits();
-                case 4: return workTogether();
-                case 5: return doneTogether();
+                case 4: return together(WORK);
+                case 5: return together(DONE);
                 case 6: return letters.works();
                 case 7: return letters.signals();
-                case 8: return sentTogether();
+                case 8: return together(SENT);
                 case 9: return began;
                 default: return truth;
             }
@@ -1710,21 +1693,29 @@ public final class WorkEnds {
         int ofNode(int i, int what) {
             Node node = nodes[i];
             switch (what) {
-                case 0: return node.work;
-                case 1: return node.done;
-                case 2: return node.sent;
+                case WORK: return node.work;
+                case DONE: return node.done;
+                case SENT: return node.sent;
                 case 3: return node.got;
                 case 4: return node.parent;
                 case 5: return flag(node.inTree);
-                case 6: return node.owes;
+                case OWED: return node.owes;
                 case 7: return node.tally;
                 case 8: return flag(node.black);
-                case 9: return node.weight;
+                case WEIGHED: return node.weight;
                 case 10: return childBits(i);
                 case 11: return node.chain;
                 case 12: return node.asleep;
                 default: return flag(node.red);
             }
+        }
+
+        int together(int what) {
+            int sum = 0;
+            for (int i = 0; i < count; i++) {
+                sum += ofNode(i, what);
+            }
+            return sum;
         }
 
         int childBits(int parent) {
@@ -1753,7 +1744,7 @@ public final class WorkEnds {
             switch (what) {
                 case 2: return watches.treeMost;
                 case 3: return 0;
-                case 4: return owedTogether();
+                case 4: return together(OWED);
                 default: return treeDepth();
             }
         }
@@ -1793,14 +1784,6 @@ public final class WorkEnds {
             return size;
         }
 
-        int owedTogether() {
-            int sum = 0;
-            for (int i = 0; i < count; i++) {
-                sum += nodes[i].owes;
-            }
-            return sum;
-        }
-
         int treeDepth() {
             int deepest = 0;
             for (int i = 0; i < count; i++) {
@@ -1815,19 +1798,11 @@ public final class WorkEnds {
 
         int weighed(int what) {
             switch (what) {
-                case 0: return weightAtNodes();
+                case 0: return together(WEIGHED);
                 case 1: return letters.weightTogether();
                 case 2: return watches.pool;
                 default: return watches.due;
             }
-        }
-
-        int weightAtNodes() {
-            int sum = 0;
-            for (int i = 0; i < count; i++) {
-                sum += nodes[i].weight;
-            }
-            return sum;
         }
 
         boolean hasLastLetter() {
@@ -1846,7 +1821,7 @@ public final class WorkEnds {
 
         // ---- how late
 
-        int lateness(int watch) {
+        int lagOf(int watch) {
             return watches.told[watch] - truth;
         }
 
@@ -1854,15 +1829,14 @@ public final class WorkEnds {
         int leastLate() {
             int found = NONE;
             for (int watch = 0; watch < WATCHES; watch++) {
-                if (watches.hasTold(watch) && (found == NONE || lateness(watch) < lateness(found))) {
+                if (watches.hasTold(watch) && (found == NONE || lagOf(watch) < lagOf(found))) {
                     found = watch;
                 }
             }
             return found;
         }
 
-        /** The BOUND. */
-        int latest(int watch) {
+        int boundOf(int watch) {
             switch (watch) {
                 case TREE: return count * greatestWire();
                 case WEIGHT: return greatestWireToRoot();

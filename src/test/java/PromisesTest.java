@@ -324,6 +324,32 @@ public final class PromisesTest {
         check.refused(x, "recorded(3, 3)", x.recorded(3, 3), 1);
         check.refused(x, "recorded(0, -1)", x.recorded(0, -1), 1);
         cutThatShows();
+        cutThatTakesLong();
+    }
+
+    /** NODE 1 has so much to do that a CUT from there takes 2,000 TICKS, and one that begins a TICK sooner too many. */
+    private static void cutThatTakesLong() {
+        WorkEnds x = new WorkEnds();
+        for (int batch = 1; batch <= 3; batch++) {
+            for (int i = 0; i < 40; i++) {
+                if (batch > 1) {
+                    x.drop(0);
+                }
+                x.plan(0, batch, 1, 20);
+            }
+            if (batch == 1) {
+                x.begin(3);
+            }
+            x.tick(1);
+        }
+        // From TICK 2 on NODE 1 does 2,400 units; TRUTH is at 2,401, and its RED SIGNALS come at 2,402.
+        x.tick(300);
+        check.fine(x, "tick()", x.tick(98), 401);
+        check.fine(x, "ends()", x.ends(), 2000);
+        check.refused(x, "whole(1) in 2,001 TICKS", x.whole(1), 8);
+        x.tick(1);
+        check.fine(x, "whole(1)", x.whole(1), 2000);
+        check.refused(x, "whole(0)", x.whole(0), 8);
     }
 
     /** After TRUTH the signals of the watches still go, and carry a CUT that SHOWS the end. */

@@ -7,6 +7,7 @@ public final class TextTest {
         tape();
         loads();
         faults();
+        cutOff();
         loadKeepsAndClears();
         check.end();
     }
@@ -142,6 +143,15 @@ public final class TextTest {
         fault("nodes " + (char) 233, 1, 6);
         fault("nodes 3;" + (char) 0, 1, 8);
         fault("nodes 3;pl" + (char) 225 + "n", 2, 8);
+        // What lies just beside the letters and the digits begins no TOKEN.
+        fault("nodes 3;az", 2, 8);
+        fault("nodes 3;z", 2, 8);
+        fault("nodes 3;`", 1, 8);
+        fault("nodes 3;{", 1, 8);
+        fault("nodes /;", 1, 6);
+        fault("nodes :;", 1, 6);
+        fault("nodes 3:", 1, 7);
+        fault("nodes <;", 1, 6);
         // 4: how many NODES there can be.
         fault("nodes 0;", 4, 6);
         fault("nodes 1;", 4, 6);
@@ -174,6 +184,22 @@ public final class TextTest {
         fault("nodes 3;plan 0 200 1;", 2, 20);
         fault("nodes 3;plan 0 200 1 20 plan", 2, 24);
         fault("nodes 3;plan 0 1 1 1;plan 0 1 1 1;plan 0 1 1 0;", 4, 45);
+    }
+
+    /** A TEXT ends where it ends, whatever lies behind it on the tape. */
+    private static void cutOff() {
+        String tape = " nodes 3;wire 0 1 12;plan 0 1 1 1;";
+        int[][] cuts = {{0, 2, 0}, {1, 2, 1}, {5, 2, 1}, {6, 2, 6}, {8, 2, 8}, {12, 2, 9}, {19, 2, 19}, {20, 4, 18}};
+        for (int[] cut : cuts) {
+            WorkEnds x = new WorkEnds();
+            Texts.feed(x, tape);
+            check.refused(x, "load(" + cut[0] + ")", x.load(cut[0]), 9);
+            check.due("fault(0) of load(" + cut[0] + ")", x.fault(0), cut[1]);
+            check.due("fault(1) of load(" + cut[0] + ")", x.fault(1), cut[2]);
+        }
+        WorkEnds x = new WorkEnds();
+        Texts.feed(x, tape);
+        check.fine(x, "load(9)", x.load(9), 3);
     }
 
     private static void loadKeepsAndClears() {

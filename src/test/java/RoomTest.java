@@ -16,6 +16,7 @@ public final class RoomTest {
 
     public static void main(String[] args) throws Exception {
         manyLetters();
+        fullRow();
         dearestCalls();
         oddArguments();
         beyond512();
@@ -57,6 +58,24 @@ public final class RoomTest {
         check.fine(x, "ends()", x.ends(), ends);
         check.fine(x, "tells(0)", x.tells(0), tells);
         check.fine(x, "the last one's LOAD", x.letter(sent - 1, 4), 1 + 38 % 20);
+    }
+
+    /** A CUT looks at every LETTER: once with just as many as the row has room for, too. */
+    private static void fullRow() {
+        WorkEnds x = new WorkEnds();
+        x.wires(0, 1, 9);
+        for (int i = 0; i < 40; i++) {
+            x.plan(0, 1, 1, 1);
+        }
+        x.begin(200);
+        for (int t = 1; t <= 9; t++) {
+            x.tick(1);
+            check.fine(x, "many(6)", x.many(6), 39 + t);
+            check.fine(x, "cut(0)", x.cut(0), t);
+            check.holds("whole(0)", x.whole(0) > 0);
+            x.drop(0);
+            x.plan(0, t + 1, 1, 1);
+        }
     }
 
     private static long made() {

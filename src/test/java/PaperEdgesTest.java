@@ -12,6 +12,7 @@ public final class PaperEdgesTest {
         addNeedsNoSignal();
         endsAndTells();
         wholeInAtMost2000();
+        wholeWhenASleeperWakes();
         wholeNeverComes();
         wouldAtBothEnds();
         wouldIsWhatComes();
@@ -225,6 +226,50 @@ public final class PaperEdgesTest {
         check.fine(x, "cutting(1)", x.cutting(1), 0);
         x.tick(1);
         check.fine(x, "cutting(8)", x.cutting(8), 2402);
+    }
+
+    /** No LETTER is on its way, nobody is BUSY, and all watches but one have TOLD: that one's SIGNAL is a sleeper's. */
+    private static void wholeWhenASleeperWakes() {
+        // The VISITOR.
+        WorkEnds x = new WorkEnds();
+        x.begin(1);
+        x.tick(3);
+        x.sleep(1, 20);
+        x.tick(1);
+        toldIs(x, true, true, true, false);
+        check.fine(x, "whole(1)", x.whole(1), 21);
+        check.refused(x, "whole(0)", x.whole(0), 8);
+        // The TOKEN, by a slow WIRE to NODE 2.
+        x = Texts.of("nodes 3;wire 0 2 9;");
+        x.begin(1);
+        x.tick(8);
+        x.sleep(2, 20);
+        x.tick(2);
+        toldIs(x, true, false, true, true);
+        check.fine(x, "whole(2)", x.whole(2), 21);
+        check.refused(x, "whole(0)", x.whole(0), 8);
+        // The ACK of NODE 1, who OWED until a slow ACK of the ROOT's came.
+        x = Texts.of("nodes 2;plan 0 1 1 1;plan 1 1 0 1;");
+        x.begin(1);
+        x.tick(2);
+        x.wires(0, 1, 9);
+        x.sleep(0, 1);
+        x.tick(1);
+        x.wires(0, 1, 1);
+        x.tick(5);
+        x.sleep(1, 20);
+        x.tick(4);
+        toldIs(x, false, true, true, true);
+        check.fine(x, "whole(1)", x.whole(1), 18);
+        check.refused(x, "whole(0)", x.whole(0), 8);
+    }
+
+    private static void toldIs(WorkEnds x, boolean... told) {
+        check.fine(x, "LETTERS on their way", x.many(6) + x.many(7), 0);
+        check.fine(x, "BUSY", x.many(3), 0);
+        for (int w = 0; w < 4; w++) {
+            check.holds("WATCH " + w + " has TOLD", x.watch(w, 0) != NONE == told[w]);
+        }
     }
 
     // "8 it does not come to that"

@@ -4,6 +4,7 @@ public final class TermsEdgesTest {
     private static final int NONE = WorkEnds.NONE;
 
     public static void main(String[] args) {
+        aNewObject();
         nodesTwoToEight();
         rootIsNodeZero();
         wireTakesOneToNine();
@@ -56,6 +57,24 @@ public final class TermsEdgesTest {
                 bad(ahead + number + behind, kind, ahead.length());
             }
         }
+    }
+
+    // Promise 1: "Two NODES, WIRES of 1, no ROWS, MARKS; an empty tape; STATUS 0."
+    private static void aNewObject() {
+        check.due("status() of a new object", new WorkEnds().status(), 0);
+        WorkEnds x = new WorkEnds();
+        x.feed(0, 0, 0, 0, 0);
+        x.fault(0);
+        check.due("status() of one that no call with a STATUS was made on", x.status(), 0);
+        check.refused(x, "load(21) of what one feed() brought", x.load(21), 1);
+        x = new WorkEnds();
+        check.refused(x, "load(1) of an empty tape", x.load(1), 1);
+        check.fine(x, "many(0)", x.many(0), 2);
+        check.fine(x, "many(1)", x.many(1), 0);
+        check.fine(x, "many(11)", x.many(11), 0);
+        check.fine(x, "wire(0, 1)", x.wire(0, 1), 1);
+        check.fine(x, "wire(1, 0)", x.wire(1, 0), 1);
+        check.due("NONE", NONE, -1);
     }
 
     // "NODES, 2 to 8, numbered from 0 on"
@@ -473,6 +492,30 @@ public final class TermsEdgesTest {
         check.refused(x, "load(17)", x.load(17), 9);
         check.due("fault(0)", x.fault(0), 2);
         check.due("fault(1)", x.fault(1), 17);
+        endsWithin("nodes", 5, 2, 5);
+        endsWithin("nodes", 4, 2, 0);
+        endsWithin("nodesx 3;", 5, 2, 5);
+        endsWithin("nodes 39;", 7, 2, 7);
+        endsWithin("nodes 93;", 7, 4, 6);
+        endsWithin("nodes 0003;", 9, 4, 6);
+        endsWithin("nodes 3;planx", 12, 2, 12);
+        endsWithin("nodes 3;plan ", 13, 2, 13);
+        endsWithin("nodes 3;?", 9, 1, 8);
+        // Where the tape ends, too: with a letter, with a digit.
+        String most = "nodes 3;" + " ".repeat(591);
+        bad(most + "w", 2, 599);
+        bad(most.substring(0, 596) + "wire", 2, 600);
+        bad(most + "3", 2, 599);
+        bad(most.substring(0, 595) + "wire0", 2, 600);
+        bad(most.substring(0, 596) + "1000", 1, 596);
+    }
+
+    private static void endsWithin(String tape, int n, int kind, int place) {
+        WorkEnds x = new WorkEnds();
+        Texts.feed(x, tape);
+        check.refused(x, "load(" + n + ") of " + tape, x.load(n), 9);
+        check.due("fault(0)", x.fault(0), kind);
+        check.due("fault(1)", x.fault(1), place);
     }
 
     // "FAULTS, the first along the text"
@@ -512,23 +555,33 @@ public final class TermsEdgesTest {
 
     // "With a new TEXT, and at first (2 NODES, no ROWS): TICK 0, no work BEGAN, all COUNTS 0, no EVENTS."
     private static void aNewTextAndAtFirst() {
+        String text = "nodes 3;wire 0 1 2;plan 0 1 2 1;";
         for (int part = 0; part < Looks.PARTS; part++) {
-            WorkEnds used = used();
-            WorkEnds unused = new WorkEnds();
-            Texts.load(used, "nodes 3;wire 0 1 2;plan 0 1 2 1;");
-            Texts.load(unused, "nodes 3;wire 0 1 2;plan 0 1 2 1;");
-            same(used, unused, part, "a new TEXT");
-            used = used();
-            Texts.load(used, "nodes 3;wire 0 1 2;plan 0 1 2 1;");
-            used.begin(2);
-            used.tick(3);
-            unused = Texts.of("nodes 3;wire 0 1 2;plan 0 1 2 1;");
-            unused.begin(2);
-            unused.tick(3);
-            same(used, unused, part, "a new TEXT, and work");
-            used = used();
-            Texts.load(used, "nodes 2;");
-            same(used, Texts.of("nodes 2;"), part, "a TEXT of nothing");
+            for (int paper = 0; paper < 4; paper++) {
+                WorkEnds x = used(paper);
+                WorkEnds y = new WorkEnds();
+                check.due("load()", Texts.load(x, text), Texts.load(y, text));
+                same(x, y, part, "a new TEXT");
+                x = used(paper);
+                Texts.load(x, text);
+                x.begin(2);
+                x.tick(3);
+                y = Texts.of(text);
+                y.begin(2);
+                y.tick(3);
+                same(x, y, part, "a new TEXT, and work");
+                x = used(paper);
+                Texts.load(x, "nodes 2;");
+                same(x, Texts.of("nodes 2;"), part, "a TEXT without LINES");
+                // Where NODES were ahead of it there is nothing left of them.
+                x = used(paper);
+                Texts.load(x, "nodes 2;");
+                y = Texts.of("nodes 2;");
+                for (int n = 2; n < 8; n++) {
+                    check.due("add()", x.add(), y.add());
+                }
+                same(x, y, part, "a TEXT and new NODES");
+            }
             if (part > 0) {
                 same(new WorkEnds(), Texts.of("nodes 2;"), part, "a new object");
             }
@@ -547,16 +600,32 @@ public final class TermsEdgesTest {
         check.due("an empty tape", x.feed(0, 0, 0, 0, 0), 20);
     }
 
-    /** All that a new TEXT must clear is there. */
-    private static WorkEnds used() {
-        WorkEnds x = Texts.of("nodes 8;both 0 1 9;wire 2 1 3;plan 0 1 1 2;plan 0 1 2 5;plan 1 1 0 3;plan 2 3 7 9;");
-        x.sleep(2, 40);
+    /** All that a new TEXT must clear is there, in what is so and, by the call made last, in what went ON PAPER. */
+    private static WorkEnds used(int paper) {
+        StringBuilder text = new StringBuilder("nodes 8;both 0 1 9;wire 2 1 3;plan 0 1 1 2;plan 0 1 2 5;plan 1 1 0 3;");
+        for (int i = 0; i < 25; i++) {
+            text.append("plan 2 3 7 9;");
+        }
+        WorkEnds x = Texts.of(text.toString());
+        x.sleep(0, 3);
+        x.sleep(2, 2);
         x.sleep(6, 50);
         x.tick(5);
         x.begin(2);
-        x.tick(11);
+        x.tick(9);
         x.cut(7);
-        x.tick(3);
+        x.tick(1);
+        switch (paper) {
+            case 0 -> { }
+            case 1 -> x.whole(2);
+            case 2 -> x.tells(2);
+            default -> {
+                x.tick(300);
+                x.sleep(0, 50);
+                x.sleep(1, 49);
+                check.fine(x, "ends()", x.ends(), 0);
+            }
+        }
         return x;
     }
 
@@ -625,6 +694,9 @@ public final class TermsEdgesTest {
         check.due("feed(): it is empty with 9, too", x.feed(0, 0, 0, 0, 0), 20);
         check.refused(x, "load(0) of 20", x.load(0), 9);
         check.due("feed(): it is empty with load(0), too", x.feed(0, 0, 0, 0, 0), 20);
+        endsWithin("?", 0, 2, 0);
+        endsWithin("  nodes 3;", 0, 2, 0);
+        endsWithin("  nodes 3;", 1, 2, 1);
     }
 
     // Promise 5: "Of the latest load() with STATUS 0 or 9 .. NONE for others, and ahead of any"

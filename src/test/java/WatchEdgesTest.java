@@ -19,6 +19,8 @@ public final class WatchEdgesTest {
         weightIsHalved();
         mintAtOneAlone();
         mintOfAnotherNode();
+        whoHasAWeightOfOne();
+        mintsAreOfThisWork();
         poolFillsAsItComes();
         wavesNeedOneAhead();
         wavesNeedSentAsGot();
@@ -433,6 +435,79 @@ public final class WatchEdgesTest {
         check.fine(x, "lag(2)", x.lag(2), 0);
     }
 
+    /** By that many ROWS to NODE 1 and one to NODE 2 the last LETTER takes 2 (18 ROWS) or 1 (19 ROWS) to NODE 2. */
+    private static WorkEnds lightWeight(int rows, boolean sends) {
+        WorkEnds x = Texts.of("nodes 3;");
+        for (int i = 0; i < rows; i++) {
+            x.plan(0, 1, 1, 1);
+        }
+        x.plan(0, 1, 2, 1);
+        if (sends) {
+            x.plan(2, 1, 1, 1);
+        }
+        x.begin(1);
+        x.tick(1);
+        check.fine(x, "what NODE 2 gets", x.letter(rows, 5), rows == 18 ? 2 : 1);
+        x.tick(1);
+        return x;
+    }
+
+    // "who has 1 gets 1,024 more first", "others send it to the ROOT"
+    private static void whoHasAWeightOfOne() {
+        // It is sent as any other.
+        WorkEnds x = lightWeight(19, false);
+        check.fine(x, "the WEIGHT's from", x.letter(firstOf(x, 3), 1), 2);
+        check.fine(x, "the WEIGHT", x.letter(firstOf(x, 3), 5), 1);
+        x.tick(1);
+        watchIs(x, 2, 5, 2);
+        x.tick(18);
+        watchIs(x, 2, 0, 21);
+        watchIs(x, 2, 1, 2);
+        // A WORK LETTER of who has 1.
+        x = lightWeight(19, true);
+        watchIs(x, 2, 2, 1);
+        watchIs(x, 2, 4, 1049600);
+        check.fine(x, "what the LETTER takes", x.letter(firstOf(x, 0), 5), 512);
+        check.fine(x, "what is left", x.letter(firstOf(x, 3), 5), 513);
+        int mints = 0;
+        for (int i = 0; i < 8; i++) {
+            if (x.event(i, 0) == 5) {
+                mints++;
+                check.fine(x, "the NODE of the MINT", x.event(i, 2), 2);
+                check.fine(x, "the TICK of the MINT", x.event(i, 1), 2);
+            }
+        }
+        check.due("EVENTS of MINTS", mints, 1);
+        // Who has 2 gives one, and keeps one.
+        x = lightWeight(18, true);
+        watchIs(x, 2, 2, 0);
+        watchIs(x, 2, 4, 1048576);
+        check.fine(x, "what the LETTER takes", x.letter(firstOf(x, 0), 5), 1);
+        check.fine(x, "what is left", x.letter(firstOf(x, 3), 5), 1);
+    }
+
+    /** As work BEGINS no MINT was; a MARK keeps those that were. */
+    private static void mintsAreOfThisWork() {
+        WorkEnds x = sending(21, 1);
+        x.mark();
+        x.tick(50);
+        watchIs(x, 2, 1, 3);
+        watchIs(x, 2, 2, 1);
+        x.begin(1);
+        watchIs(x, 2, 1, 0);
+        watchIs(x, 2, 2, 0);
+        watchIs(x, 2, 4, 1048576);
+        watchIs(x, 2, 5, 0);
+        x.back();
+        watchIs(x, 2, 1, 2);
+        watchIs(x, 2, 2, 1);
+        watchIs(x, 2, 4, 1049600);
+        Texts.load(x, "nodes 2;");
+        watchIs(x, 2, 1, 0);
+        watchIs(x, 2, 2, 0);
+        watchIs(x, 2, 4, 0);
+    }
+
     // "the ROOT: it goes into the POOL; others send it .., which goes into the POOL as it comes. Behind that .."
     private static void poolFillsAsItComes() {
         WorkEnds x = new WorkEnds();
@@ -493,6 +568,7 @@ public final class WatchEdgesTest {
         int[] waves = {1, 1, 1, 2, 2, 2, 3, 3, 3, 4, 4, 4, 5, 5, 5, 5};
         for (int t = 1; t <= 16; t++) {
             x.tick(1);
+            check.fine(x, "tells(3) at " + t, x.tells(3), 16 - t);
             watchIs(x, 3, 2, waves[t - 1]);
             watchIs(x, 3, 0, t == 16 ? 16 : NONE);
             watchIs(x, 3, 4, 1);
@@ -772,7 +848,22 @@ public final class WatchEdgesTest {
         x.tick(1);
         // The IDLE ROOT's TOKEN and VISITOR: with the slow one three.
         ledgerIs(x, 0, 1, 4, 2, 33, 3);
-        // Of each WIRE its own.
+        // Of each WIRE its own: so many LETTERS as the numbers say, no two WIRES alike.
+        x = Texts.of("nodes 8;");
+        int sent = 0;
+        for (int i = 1; i < 8; i++) {
+            for (int k = 0; k < i; k++) {
+                x.plan(0, 1, i, 1);
+                sent++;
+            }
+        }
+        x.begin(2);
+        x.tick(1);
+        check.fine(x, "SENT", x.many(8), sent);
+        for (int i = 1; i < 8; i++) {
+            ledgerIs(x, 0, i, i, 0, i, i);
+            ledgerIs(x, i, 0, 0, 0, 0, 0);
+        }
         x = Texts.of("nodes 3;plan 0 1 1 1;plan 0 1 2 1;wire 0 2 3;");
         x.begin(2);
         x.tick(1);

@@ -678,45 +678,88 @@ public final class WorkEdgesTest {
         check.fine(x, "many(2)", x.many(2), 1);
     }
 
-    private static WorkEnds atWork() {
-        WorkEnds x = Texts.of("nodes 4;both 0 1 2;wire 2 0 5;plan 0 1 1 6;plan 0 2 2 3;plan 1 2 3 4;plan 3 1 0 1;");
+    private static WorkEnds atWork(int ticks) {
+        WorkEnds x = Texts.of("nodes 4;both 0 1 2;wire 2 0 5;plan 0 1 1 6;plan 0 2 2 3;plan 1 2 3 4;plan 3 1 0 1;"
+            + "plan 0 6 3 2;");
         x.begin(6);
         x.tick(5);
         x.cut(1);
         x.sleep(3, 4);
-        x.tick(2);
+        x.tick(ticks);
         return x;
+    }
+
+    private static WorkEnds crossed() {
+        WorkEnds x = small();
+        x.tick(2);
+        x.cut(1);
+        x.tick(1);
+        return x;
+    }
+
+    private static WorkEnds minted() {
+        WorkEnds x = new WorkEnds();
+        for (int i = 0; i < 25; i++) {
+            x.plan(0, 1, 1, 1);
+        }
+        x.begin(2);
+        x.tick(1);
+        return x;
+    }
+
+    private static WorkEnds inState(int state) {
+        return switch (state) {
+            case 0 -> atWork(2);
+            case 1 -> atWork(9);
+            case 2 -> atWork(60);
+            case 3 -> crossed();
+            case 4 -> minted();
+            default -> small();
+        };
+    }
+
+    private static void muchIsDone(WorkEnds x) {
+        x.tick(9);
+        x.cut(1);
+        x.wires(0, 1, 9);
+        x.drop(1);
+        x.plan(1, 7, 0, 9);
+        x.sleep(1, 30);
+        x.mark();
+        x.tick(200);
+        x.add();
+        x.begin(3);
+        x.tick(40);
+        x.mark();
+        Texts.load(x, "nodes 8;wire 0 1 5;");
+        x.begin(200);
+        x.tick(30);
     }
 
     // "all but the tape and what fault() tells is taken back to the latest one, which is gone then"
     private static void backTakesAllBack() {
-        for (int part = 0; part < Looks.PARTS - 1; part++) {
-            for (int later : new int[] {0, 1, 3, 40}) {
-                WorkEnds x = atWork();
-                x.mark();
-                x.tick(9);
-                x.cut(3);
-                x.wires(0, 1, 9);
-                x.drop(1);
-                x.plan(2, 7, 1, 9);
-                x.sleep(1, 30);
-                x.mark();
-                x.tick(200);
-                x.add();
-                x.begin(3);
-                x.mark();
-                Texts.load(x, "nodes 8;wire 0 1 5;");
-                x.begin(200);
-                x.tick(30);
-                check.fine(x, "back()", x.back(), 2);
-                check.fine(x, "back()", x.back(), 1);
-                check.fine(x, "back()", x.back(), 0);
-                WorkEnds y = atWork();
-                if (later > 0) {
-                    x.tick(later);
-                    y.tick(later);
+        for (int state = 0; state < 6; state++) {
+            for (int part = 0; part < Looks.PARTS - 1; part++) {
+                for (int later : new int[] {0, 1, 3, 40}) {
+                    WorkEnds x = inState(state);
+                    x.mark();
+                    muchIsDone(x);
+                    check.fine(x, "back()", x.back(), 2);
+                    check.fine(x, "back()", x.back(), 1);
+                    check.fine(x, "back()", x.back(), 0);
+                    WorkEnds y = inState(state);
+                    // What fault() tells is not taken back: so both have loaded something.
+                    if (state > 2) {
+                        y.mark();
+                        Texts.load(y, "nodes 2;");
+                        y.back();
+                    }
+                    if (later > 0) {
+                        x.tick(later);
+                        y.tick(later);
+                    }
+                    same(x, y, part, "taken back, " + later + " TICKS later");
                 }
-                same(x, y, part, "taken back, " + later + " TICKS later");
             }
         }
         WorkEnds x = new WorkEnds();
